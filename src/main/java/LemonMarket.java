@@ -425,14 +425,14 @@ public final class LemonMarket {
         Sheet row = sheets[k];
         int whole = 0;
         int found = 0;
-        while (whole < n && found == 0) {
-            int from = f + CELLS_OF_SORT * whole;
+        for (int i = 0; i < n && found == 0; i++) {
+            int from = f + CELLS_OF_SORT * i;
             found = row.faultAt(lane, from, CELLS_OF_SORT);
             if (found == 0) {
                 if (!row.tellsSortAt(from)) {
-                    return -20 - whole;
+                    return -20 - i;
                 }
-                if (held.size + whole >= SORTS) {
+                if (held.size + i >= SORTS) {
                     return FULL;
                 }
                 whole++;
