@@ -843,8 +843,8 @@ public final class LemonMarket {
             lines = 0;
             place = 0;
             told = 0;
-            // Every line takes a byte at least.
             readToken();
+            // Every line takes a byte at least.
             for (int round = 0; round < Tape.ROOM && fault == 0 && token != AT_END; round++) {
                 takeLine(stock);
                 lines++;
