@@ -560,8 +560,7 @@ public final class LemonMarket {
 
     private int priceLearned(int p) {
         trade.make(held, PLAIN, 0, p);
-        int thoughtDown = trade.parts > 0 ? trade.thoughtDown() : 0;
-        return Math.floorDiv(held.keen * thoughtDown + (10 - held.keen) * p, 10);
+        return Math.floorDiv(held.keen * trade.thoughtDown() + (10 - held.keen) * p, 10);
     }
 
     /** SORTS and the rules that hold for them. */
@@ -786,6 +785,7 @@ public final class LemonMarket {
             return (whole & wanted) == wanted;
         }
 
+        /** THOUGHT divided down; 0, if nothing is SOLD. */
         int thoughtDown() {
             return parts > 0 ? Math.floorDiv(tenths, shares()) : 0;
         }
