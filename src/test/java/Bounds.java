@@ -3,14 +3,21 @@ import java.io.UncheckedIOException;
 import java.nio.file.Files;
 import java.nio.file.Path;
 import java.util.TreeSet;
+import java.util.regex.Matcher;
+import java.util.regex.Pattern;
 
-/** What the tests of the document's bounds share: a sentence, the calls under it, the answers that are due. */
+/** What the tests of the document's sentences share: a sentence, the calls under it, the answers that are due. */
 final class Bounds {
     static final int BAD = -1, FULL = -3, NONE = -4, FAR_BAD = -1000000000, FAR_NONE = -1000000004;
     static final int LOW = Integer.MIN_VALUE, HIGH = Integer.MAX_VALUE;
-    static final int PROMISES = 32, TERMS = 0;
+    static final int PROMISES = 32, TERMS = 0, BEGINNING = -1;
+
+    // What is no sentence (headings, a promise's own head, the marks of blocks), and the part that promises nothing.
+    private static final String NO_SENTENCES = "# LemonMarket |## What it is |## The public face |## Terms "
+            + "|## Promise [0-9]+: [A-Za-z ]+`[^`]+`: |```(java|text)?|======== [12] |## Not promised .*";
 
     private final String document = plain(documentText());
+    private final boolean[] quoted = new boolean[document.length()];
     private final TreeSet<Integer> named = new TreeSet<>();
     private int promise;
     private String sentence = "";
@@ -44,15 +51,43 @@ final class Bounds {
         sentence = words;
         sentences++;
         named.add(ofPromise);
-        if (!document.isEmpty() && !partOf(ofPromise).contains(plain(words))) fail("the document does not say so");
+        if (!document.isEmpty() && !quote(plain(words), startOf(ofPromise), startOf(ofPromise + 1))) fail("the document does not say so");
     }
 
-    private String partOf(int ofPromise) {
-        String from = ofPromise == TERMS ? "## Terms" : "## Promise " + ofPromise + ":";
-        String to = ofPromise == TERMS ? "## Promise 1:" : ofPromise == PROMISES ? "## Not promised" : "## Promise " + (ofPromise + 1) + ":";
-        int start = document.indexOf(from);
-        int end = document.indexOf(to);
-        return start >= 0 && start < end ? document.substring(start, end) : "";
+    private int startOf(int ofPromise) {
+        if (ofPromise == BEGINNING) return 0;
+        if (ofPromise == TERMS) return document.indexOf("## Terms");
+        return document.indexOf(ofPromise > PROMISES ? "## Not promised" : "## Promise " + ofPromise + ":");
+    }
+
+    private boolean quote(String words, int from, int to) {
+        boolean found = false;
+        for (int i = document.indexOf(words, from); i >= 0 && i + words.length() <= to; i = document.indexOf(words, i + 1)) {
+            markQuoted(i, i + words.length());
+            found = true;
+        }
+        return found;
+    }
+
+    private void markQuoted(int from, int to) {
+        for (int i = from; i < to; i++) quoted[i] = true;
+    }
+
+    /** Each stretch of the document that has a letter or a figure must stand in some sentence of the tests. */
+    private void checkAllIsQuoted() {
+        Matcher m = Pattern.compile(NO_SENTENCES).matcher(document);
+        while (m.find()) markQuoted(m.start(), m.end());
+        int from = 0;
+        for (int i = 0; i <= quoted.length; i++) {
+            if (i == quoted.length || quoted[i]) {
+                String words = document.substring(from, i);
+                if (words.matches(".*[A-Za-z0-9].*")) {
+                    wrong++;
+                    System.out.println("no test quotes '" + words + "'");
+                }
+                from = i + 1;
+            }
+        }
     }
 
     void due(String call, int got, int want) {
@@ -63,7 +98,7 @@ final class Bounds {
 
     private void fail(String what) {
         wrong++;
-        if (wrong <= 40) System.out.println((promise == TERMS ? "Terms" : "promise " + promise) + ", '" + sentence + "': " + what);
+        if (wrong <= 40) System.out.println((promise <= TERMS ? "ahead of the promises" : "promise " + promise) + ", '" + sentence + "': " + what);
     }
 
     private void endSentence() {
@@ -79,7 +114,8 @@ final class Bounds {
                 System.out.println("no sentence of promise " + i);
             }
         }
-        System.out.println("BoundsTest: " + sentences + " sentences, " + checks + " checks, " + wrong + " wrong");
+        checkAllIsQuoted();
+        System.out.println("DocumentTest: " + sentences + " sentences, " + checks + " checks, " + wrong + " wrong");
         if (wrong != 0) System.exit(1);
     }
 

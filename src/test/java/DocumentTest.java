@@ -1,7 +1,9 @@
-/** Each sentence of the document that names a bound: the last that is taken, the first that is refused, what stays. */
-public final class BoundsTest {
+/** Every sentence of the document, quoted from it, with the calls that hold it; words that no test quotes are told. */
+public final class DocumentTest {
     public static void main(String[] args) {
         Bounds b = new Bounds();
+        FaceSentences.test(b);
+        Meanings.test(b);
         TapeBounds.test(b);
         TextBounds.test(b);
         SortBounds.test(b);
